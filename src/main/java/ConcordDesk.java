@@ -605,6 +605,7 @@ public final class ConcordDesk {
         private final int[] table = new int[WIDTH * WIDTH];
         private final int[] costs = new int[SLOTS];
         private final int[] picks = new int[MOST_SUGGESTIONS];
+        private long pickSet;
 
         Speller(Lexicon lexicon) {
             this.lexicon = lexicon;
@@ -631,11 +632,13 @@ public final class ConcordDesk {
                 costs[index] = isFar ? MOST_COST + 1 : costOf(word, known);
             }
             int picked = 0;
+            pickSet = 0;
             // Only the word itself costs 0 beside it.
             for (int cost = 1; cost <= MOST_COST; cost++) {
                 for (int index = 0; index < lexicon.knownCount() && picked < MOST_SUGGESTIONS; index++) {
                     if (costs[index] == cost) {
                         picks[picked] = index;
+                        pickSet |= 1L << index;
                         picked++;
                     }
                 }
@@ -647,14 +650,9 @@ public final class ConcordDesk {
             return picks[index];
         }
 
-        /** The picks for a word as bits. */
-        long pickSetFor(int word) {
-            int picked = pickFor(word);
-            long set = 0;
-            for (int i = 0; i < picked; i++) {
-                set |= 1L << picks[i];
-            }
-            return set;
+        /** The last picks as bits. */
+        long pickSet() {
+            return pickSet;
         }
 
         /** The letters from the last one on: both words are turned round, so their cost stays the same. */
@@ -764,6 +762,7 @@ public final class ConcordDesk {
      * the gender plus 4 times the number plus the case, so that what agrees is a mask of bits.
      */
     private static final class Grammar {
+        private static final int CATEGORY_SHIFT = 5;
         private static final int GENDER_BITS = 24;
         private static final int NUMBER_BITS = 4;
         private static final int CASE_BITS = 3;
@@ -784,7 +783,7 @@ public final class ConcordDesk {
         }
 
         static int categoryOf(int node) {
-            return node >> 5;
+            return node >> CATEGORY_SHIFT;
         }
 
         static int featuresOf(int node) {
@@ -852,7 +851,7 @@ public final class ConcordDesk {
         }
 
         boolean fits(int rule, int first, int second) {
-            return categoryOf(first) == firsts[rule] && categoryOf(second) == seconds[rule]
+            return first >> CATEGORY_SHIFT == firsts[rule] && second >> CATEGORY_SHIFT == seconds[rule]
                     && ((first ^ second) & agreeBits[rule]) == 0;
         }
 
@@ -889,7 +888,7 @@ public final class ConcordDesk {
         private final Grammar grammar;
         /** The features, as bits, of the trees of a spot and a category, at CATEGORIES * spot + category. */
         private final int[] sets = new int[SPOTS * CATEGORIES];
-        /** How many trees, and their least weight, by features too; they mean something where the set is not empty. */
+        /** How many trees, and their least weight, by features too; old numbers stay where the set is empty. */
         private final long[] counts = new long[SPOTS * CATEGORIES * FEATURES];
         private final int[] weights = new int[SPOTS * CATEGORIES * FEATURES];
         private final long[] sideCounts = new long[FEATURES];
@@ -921,23 +920,19 @@ public final class ConcordDesk {
             number(left, start, size);
             int top = topOf(size);
             long sum = 0;
-            for (int features = 0; features < FEATURES; features++) {
-                if (hasBit(sets[top], features)) {
-                    sum += counts[FEATURES * top + features];
-                }
+            for (int features = 0; features < FEATURES && sets[top] != 0; features++) {
+                sum += counts[FEATURES * top + features];
             }
             return sum;
         }
 
-        /** The least weight of a tree, if there is one. */
+        /** The least weight of a tree, or NO_WEIGHT. */
         int leastWeight(long[] left, int start, int size) {
             number(left, start, size);
             int top = topOf(size);
             int least = NO_WEIGHT;
-            for (int features = 0; features < FEATURES; features++) {
-                if (hasBit(sets[top], features)) {
-                    least = Math.min(least, weights[FEATURES * top + features]);
-                }
+            for (int features = 0; features < FEATURES && sets[top] != 0; features++) {
+                least = Math.min(least, weights[FEATURES * top + features]);
             }
             return least;
         }
@@ -1028,18 +1023,16 @@ public final class ConcordDesk {
             }
         }
 
+        /** Features that a head does not have add nothing: their count is 0, and no weight is above all weights. */
         private void numberRule(int rule, int whole, int head, int side) {
             int agree = grammar.agreeBitsOf(rule);
-            int found = sets[head] & Grammar.spread(sets[side], agree);
             sumSide(side, agree);
             for (int features = 0; features < FEATURES; features++) {
-                if (hasBit(found, features)) {
-                    int of = FEATURES * head + features;
-                    int into = FEATURES * whole + features;
-                    int weight = weights[of] + sideWeights[features & agree] + rule + 1;
-                    counts[into] += counts[of] * sideCounts[features & agree];
-                    weights[into] = Math.min(weights[into], weight);
-                }
+                int of = FEATURES * head + features;
+                int into = FEATURES * whole + features;
+                int weight = weights[of] + sideWeights[features & agree] + rule + 1;
+                counts[into] += counts[of] * sideCounts[features & agree];
+                weights[into] = Math.min(weights[into], weight);
             }
         }
 
@@ -1050,11 +1043,9 @@ public final class ConcordDesk {
                 sideWeights[features] = NO_WEIGHT;
             }
             for (int features = 0; features < FEATURES; features++) {
-                if (hasBit(sets[side], features)) {
-                    int at = FEATURES * side + features;
-                    sideCounts[features & agree] += counts[at];
-                    sideWeights[features & agree] = Math.min(sideWeights[features & agree], weights[at]);
-                }
+                int key = features & agree;
+                sideCounts[key] += counts[FEATURES * side + features];
+                sideWeights[key] = Math.min(sideWeights[key], weights[FEATURES * side + features]);
             }
         }
     }
@@ -1325,12 +1316,21 @@ public final class ConcordDesk {
             return chart.hasTree(left, text.startOf(sentence), text.sizeOf(sentence)) ? 0 : 1;
         }
 
+        /** The indexes of the known words, as bits, that are tried for a word. */
+        private long triedAt(int place) {
+            if (readings[place] != 0) {
+                return lexicon.relatedTo(readings[place]);
+            }
+            speller.pickFor(text.tokenAt(place));
+            return speller.pickSet();
+        }
+
         private void findEdits(int sentence, int badness) {
             int start = text.startOf(sentence);
             for (int place = start; place < start + text.sizeOf(sentence) && badness > 0; place++) {
                 long own = readings[place];
                 int word = text.tokenAt(place);
-                long tried = own == 0 ? speller.pickSetFor(word) : lexicon.relatedTo(own);
+                long tried = triedAt(place);
                 // Known words stand in rising order, and so do the edits.
                 for (int index = 0; index < lexicon.knownCount() && edits < MOST_EDITS; index++) {
                     if (hasBit(tried, index) && lexicon.knownAt(index) != word) {
