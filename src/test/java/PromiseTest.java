@@ -41,6 +41,7 @@ public final class PromiseTest {
         trees();
         agreement();
         heads();
+        manyFeatures();
         deepTrees();
         treesThatGoRound();
         treesAnew();
@@ -568,6 +569,12 @@ public final class PromiseTest {
         lefts("left follows the endings", desk, 3, 0, 2, 0);
         desk.addRoot(1, 0, 0, 51);
         lefts("left follows the roots", desk, 3, 0, 5, 0);
+        desk.setSeam(0, 1, 2);
+        write(desk, 511, 521);
+        lefts("left follows the seams", desk, 0, 2);
+        desk.setSeam(0, 0, 0);
+        lefts("left follows the seams", desk, 2, 0);
+        write(desk, 5, 0, 51, 52);
         raises("left", OUTSIDE, () -> desk.left(4));
         raises("left", OUTSIDE, () -> desk.left(-1));
     }
@@ -649,6 +656,26 @@ public final class PromiseTest {
         }
     }
 
+    /** Several rules that make the same category of heads with other features. */
+    private static void manyFeatures() {
+        ConcordDesk desk = plain();
+        desk.addRoot(0, 0, 0, 1);
+        desk.addRoot(1, 0, 1, 2);
+        desk.addRoot(2, 0, 0, 3);
+        desk.addRoot(2, 0, 1, 3);
+        desk.addRule(3, 0, 1, 0, false);
+        desk.addRule(3, 0, 1, 0, true);
+        desk.addRule(7, 3, 2, 1, false);
+        write(desk, 1, 2, 3);
+        same("a tree for each gender", 2L, desk.trees(0));
+        same("a tree for each gender, anew", 2L, desk.treesAnew(0));
+        same("the better one", 1 + 3, desk.best(0));
+        desk.addRule(7, 2, 7, 1, true);
+        write(desk, 3, 1, 2, 3);
+        same("one more word for each gender", 2L, desk.trees(0));
+        same("the better one", 1 + 3 + 4, desk.best(0));
+    }
+
     private static void deepTrees() {
         ConcordDesk desk = plain();
         desk.addRoot(0, 0, 0, 1);
@@ -723,6 +750,17 @@ public final class PromiseTest {
         same("second sentence", 1L, desk.treesAnew(1));
         write(desk, 1, 8, 2);
         same("unknown word", 0L, desk.treesAnew(0));
+        desk.addRule(4, 0, 1, 0, false);
+        desk.addRule(7, 2, 4, 0, false);
+        write(desk, 4, 1, 2);
+        same("words with 3, 1 and 1 readings", 1L, desk.treesAnew(0));
+        same("words with 3, 1 and 1 readings, by the other way", 1L, desk.trees(0));
+        desk.addRule(7, 4, 2, 0, false);
+        write(desk, 1, 2, 4);
+        same("words with 1, 1 and 3 readings", 3L, desk.treesAnew(0));
+        write(desk, 1, 4, 5);
+        same("words with 1, 3 and 2 readings", 3L, desk.treesAnew(0));
+        same("words with 1, 3 and 2 readings, by the other way", 3L, desk.trees(0));
         ConcordDesk much = new ConcordDesk();
         for (int cell = 0; cell < 6; cell++) {
             much.setEnding(0, cell / 3, cell % 3, 0);
