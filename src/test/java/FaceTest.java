@@ -170,15 +170,13 @@ public final class FaceTest {
         com.sun.management.ThreadMXBean threads = (com.sun.management.ThreadMXBean) ManagementFactory.getThreadMXBean();
         long id = Thread.currentThread().getId();
         ConcordDesk desk = new ConcordDesk();
+        callAll(desk);
+        long before = threads.getThreadAllocatedBytes(id);
         for (int i = 0; i < 5; i++) {
             callAll(desk);
         }
-        long before = threads.getThreadAllocatedBytes(id);
-        for (int i = 0; i < 100; i++) {
-            callAll(desk);
-        }
         long bytes = threads.getThreadAllocatedBytes(id) - before;
-        hold("calls make " + bytes + " bytes", bytes < 20000);
+        hold("calls make " + bytes + " bytes", bytes < 1000);
         before = threads.getThreadAllocatedBytes(id);
         for (int i = 0; i < 10; i++) {
             callAll(new ConcordDesk());

@@ -20,7 +20,7 @@ public final class ModelTest {
     }
 
     public static void main(String[] args) {
-        for (int seed = 0; seed < 1500; seed++) {
+        for (int seed = 0; seed < 2000; seed++) {
             new Run(seed, seed % 7).go();
         }
         System.out.println(calls + " calls, " + wrong + " answers are not as due");
@@ -656,7 +656,11 @@ public final class ModelTest {
             return below(8) == 0 ? 0 : word();
         }
 
+        /** Behind 512 calls all answers are free. */
         void check(String call, Call real, Call due) {
+            if (told.size() == 512) {
+                return;
+            }
             calls++;
             Object got = answer(real);
             Object want = answer(due);

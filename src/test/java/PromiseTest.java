@@ -435,12 +435,12 @@ public final class PromiseTest {
     }
 
     private static void sentences() {
-        ConcordDesk desk = new ConcordDesk();
         int[][] texts = {{}, {0}, {0, 0}, {1}, {0, 1}, {1, 0}, {1, 0, 0, 2, 3}, {0, 1, 2, 0, 0, 0, 3, 0},
             {1, 0, 2, 0, 3, 0, 4, 0, 5, 0}, {1, 2, 3, 4, 5, 6, 7, 8, 1, 2}};
         int[][] starts = {{}, {}, {}, {0}, {1}, {0}, {0, 3}, {1, 6}, {0, 2, 4, 6, 8}, {0}};
         int[][] sizes = {{}, {}, {}, {1}, {1}, {1}, {1, 2}, {2, 1}, {1, 1, 1, 1, 1}, {10}};
         for (int i = 0; i < texts.length; i++) {
+            ConcordDesk desk = new ConcordDesk();
             write(desk, texts[i]);
             same("sentences of text " + i, starts[i].length, desk.sentences());
             for (int s = 0; s < starts[i].length; s++) {
@@ -456,6 +456,8 @@ public final class PromiseTest {
                 raises("fault " + s, OUTSIDE, () -> desk.fault(s));
             }
         }
+        ConcordDesk desk = new ConcordDesk();
+        write(desk, texts[texts.length - 1]);
         desk.replace(4, 0);
         same("a stop parts", 2, desk.sentences());
         same("a stop parts", 5, desk.from(1));
