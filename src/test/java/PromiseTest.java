@@ -57,7 +57,6 @@ public final class PromiseTest {
         figures();
         isSound();
         failedCallsChangeNothing();
-        readmeExample();
         System.out.println(checks + " checks, " + wrong + " are not as due");
         if (wrong != 0) {
             System.exit(1);
@@ -1066,20 +1065,5 @@ public final class PromiseTest {
         same("roots as before", 2, desk.addRoot(0, 3, 0, 1));
         same("cuts as before", 1, desk.addCut(2, 2));
         same("rules as before", 2, desk.addRule(6, 0, 1, 0, false));
-    }
-
-    private static void readmeExample() {
-        ConcordDesk desk = new ConcordDesk();
-        desk.setEnding(0, 0, 0, 0);
-        desk.setEnding(0, 1, 0, 2);
-        desk.addRoot(0, 0, 0, 13);
-        desk.addRoot(1, 0, 0, 5);
-        desk.addRule(7, 0, 1, 2, false);
-        desk.insert(0, 13);
-        desk.insert(1, 52);
-        same("readme, fault", 'g', desk.fault(0));
-        edits("readme, edits", desk, 0, 132, 1, 5);
-        same("readme, apply", 1, desk.apply(0));
-        same("readme, badness", 0, desk.badness());
     }
 }
