@@ -65,12 +65,13 @@ public final class ReadmeTest {
     private static void runBlock(String commands, String due, Path directory)
             throws IOException, InterruptedException {
         Path printed = directory.resolve("printed");
-        // With -e, a command that fails ends the block, as it would end the reader's patience.
+        Path errors = directory.resolve("errors");
+        // With -e, a command that fails ends the block. What a Java machine tells of itself goes to the errors.
         Process shell = new ProcessBuilder("bash", "-e", "-c", commands).directory(directory.toFile())
-                .redirectErrorStream(true).redirectOutput(printed.toFile()).start();
+                .redirectOutput(printed.toFile()).redirectError(errors.toFile()).start();
         int code = shell.waitFor();
         String got = Files.readString(printed);
-        hold("these commands end with " + code + ":\n" + commands + got, code == 0);
+        hold("these commands end with " + code + ":\n" + commands + got + Files.readString(errors), code == 0);
         hold("these commands print\n" + got + "and the page says\n" + due, due == null || due.equals(got));
     }
 
